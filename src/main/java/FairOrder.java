@@ -369,11 +369,20 @@ public final class FairOrder {
     private void arrange(int kind, long seed) {
         if (kind == BY_LOT) {
             row.shuffle(seed);
-        } else if (kind != BY_NUMBER) {
-            for (int i = 0; i < size; i++) {
-                keys[i] = kind == BY_HEARD ? calls[i].thirdTime() : -calls[i].price;
-            }
-            row.sortBy(keys);
+            return;
+        }
+        for (int i = 0; i < size; i++) {
+            keys[i] = keyOf(calls[i], kind);
+        }
+        row.sortBy(keys);
+    }
+
+    // All keys alike leave a row as it is, by numbers.
+    private static int keyOf(Call call, int kind) {
+        switch (kind) {
+            case BY_PRICE: return -call.price;
+            case BY_HEARD: return call.thirdTime();
+            default: return 0;
         }
     }
 
@@ -547,10 +556,10 @@ public final class FairOrder {
         }
 
         // By insertion, as it keeps those of the same key in the order of their numbers.
-        void sortBy(int[] keyOf) {
+        void sortBy(int[] keys) {
             for (int i = 1; i < length; i++) {
                 int p = i;
-                while (p > 0 && keyOf[numbers[p - 1]] > keyOf[numbers[p]]) {
+                while (p > 0 && keys[numbers[p - 1]] > keys[numbers[p]]) {
                     swap(p - 1, p);
                     p--;
                 }

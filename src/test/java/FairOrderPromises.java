@@ -522,7 +522,33 @@ public final class FairOrderPromises {
         due("1 to 2", y.linked(1, 2), 0);
         due("order", y.order(3, 0), 5);
         dueRow("behind another one", y, 2, 1, 3, 4, 0);
+        // 0, 1, 3 are a knot, 2 is loose: the knot stays together.
+        FairOrder z = heardBlock(new int[][] {
+            {10, 30, 20, -1, -1},
+            {20, 10, 30, -1, -1},
+            {5, 40, 40, 1, -1},
+            {30, 20, 10, -1, -1},
+        });
+        due("2 to 0", z.linked(2, 0), 0);
+        due("0 to 2", z.linked(0, 2), 0);
+        due("order", z.order(3, 0), 4);
+        dueRow("a knot stays together", z, 0, 1, 3, 2);
+        fairOrderOfAFullBlock();
         linksLeadThroughOpenedCallsAlone();
+    }
+
+    private static void fairOrderOfAFullBlock() {
+        int[][] times = new int[16][];
+        for (int i = 0; i < 16; i++) {
+            times[i] = new int[] {100 - i, 100 - i, 100 - i, i, -1};
+        }
+        FairOrder x = heardBlock(times);
+        due("15 to 0", x.linked(15, 0), 1);
+        due("0 to 15", x.linked(0, 15), 0);
+        due("order", x.order(3, 0), 16);
+        dueRow("all sixteen", x, 15, 14, 13, 12, 11, 10, 9, 8, 7, 6, 5, 4, 3, 2, 1, 0);
+        due("order", x.order(2, 0), 16);
+        dueRow("all sixteen by heard", x, 15, 14, 13, 12, 11, 10, 9, 8, 7, 6, 5, 4, 3, 2, 1, 0);
     }
 
     private static void linksLeadThroughOpenedCallsAlone() {
@@ -845,6 +871,18 @@ public final class FairOrderPromises {
         dueHoldings(x, 0, 0, 15);
         dueHoldings(x, 1, 30, 0);
 
+        // At 3 the money is for the first buy alone.
+        FairOrder w = new FairOrder();
+        w.account(30, 0);
+        w.account(0, 15);
+        prepare(w, new int[][] {{0, BUY, 9, 10}, {0, BUY, 9, 5}, {1, SELL, 3, 15}});
+        w.order(0, 0);
+        due("all its buys count", w.batch(), 3);
+        due("done(0)", w.done(0), 10);
+        due("done(1)", w.done(1), 0);
+        due("done(2)", w.done(2), 10);
+        dueHoldings(w, 0, 0, 10);
+
         // At 3 the first buy is too much, a later lesser one is not.
         FairOrder y = new FairOrder();
         y.account(29, 0);
@@ -887,12 +925,32 @@ public final class FairOrderPromises {
         due("done(0)", x.done(0), 0);
         due("passed(1)", x.passed(1), 0);
         due("gain", x.gain(0, 1, 1), 0);
+        batchOfAFullBlock();
         FairOrder none = new FairOrder();
         none.next();
         none.next();
         none.order(0, 0);
         due("of no calls", none.batch(), NONE);
         due("again", none.batch(), WHEN);
+    }
+
+    private static void batchOfAFullBlock() {
+        int[][] terms = new int[16][];
+        for (int i = 0; i < 16; i++) {
+            terms[i] = new int[] {i / 2, i % 2, 1000, 1000};
+        }
+        FairOrder x = new FairOrder();
+        for (int i = 0; i < 8; i++) {
+            x.account(1000000, 1000);
+        }
+        prepare(x, terms);
+        x.order(4, 5);
+        due("all sixteen", x.batch(), 1000);
+        for (int i = 0; i < 16; i++) {
+            due("done(" + i + ")", x.done(i), 1000);
+            due("passed(" + i + ")", x.passed(i), 1000000);
+            dueHoldings(x, i / 2, 1000000, 1000);
+        }
     }
 
     private static void promise16And17DoneAndPassed() {
