@@ -166,7 +166,7 @@ public final class FairOrderEdges {
     }
 
     private static void toPhase(FairOrder x, int phase) {
-        while (x.count(2) != phase) {
+        for (int turn = 0; turn < 3 && x.count(2) != phase; turn++) {
             x.next();
         }
     }
@@ -578,6 +578,18 @@ public final class FairOrderEdges {
         dueLinks(all, 15, 0, 1, 0);
         dueLinks(all, 14, 1, 1, 0);
         dueOrder(all, 3, 0, 15, 14, 13, 12, 11, 10, 9, 8, 7, 6, 5, 4, 3, 2, 1, 0);
+        FairOrder otherWay = heardBlock(turned(chain(16)));
+        dueLinks(otherWay, 0, 15, 1, 0);
+        dueLinks(otherWay, 1, 14, 1, 0);
+        dueOrder(otherWay, 3, 0, 0, 1, 2, 3, 4, 5, 6, 7, 8, 9, 10, 11, 12, 13, 14, 15);
+    }
+
+    private static int[][] turned(int[][] rows) {
+        int[][] turned = new int[rows.length][];
+        for (int i = 0; i < rows.length; i++) {
+            turned[i] = rows[rows.length - 1 - i];
+        }
+        return turned;
     }
 
     // Each is ahead of the next one, the last of the first: one node of three says otherwise.
@@ -1998,18 +2010,23 @@ public final class FairOrderEdges {
     }
 
     private static void noSuchPlaces() {
-        FairOrder x = threeSells();
+        // With GOODS for more, each CALL that came twice or was missed would show.
+        FairOrder x = withAccounts(0, 9, 0, 9, 0, 9);
+        x.pool(1000, 1);
+        prepareInOrder(x, call(0, SELL, 1, 1), call(1, SELL, 1, 1), call(2, SELL, 1, 1));
         int[] places = {-1, 3, 15, 16, LEAST_INT, GREATEST_INT};
         for (int place : places) {
             for (int what = 0; what <= 1; what++) {
-                due("from place " + place, x.gain(place, 0, what), 0);
-                due("to place " + place, x.gain(2, place, what), 0);
                 due("from and to place " + place, x.gain(place, place, what), 0);
+                for (int other = 0; other < 3; other++) {
+                    due("from place " + place + " to " + other, x.gain(place, other, what), 0);
+                    due("from place " + other + " to " + place, x.gain(other, place, what), 0);
+                }
             }
         }
         int[] whats = {-1, 2, LEAST_INT, GREATEST_INT};
         for (int what : whats) {
-            due("what " + what, x.gain(2, 0, what), 0);
+            due("what " + what, threeSells().gain(2, 0, what), 0);
         }
         FairOrder none = plainBlock(0);
         none.order(0, 0);
