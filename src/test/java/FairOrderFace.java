@@ -7,9 +7,10 @@ import java.nio.file.Files;
 import java.nio.file.Path;
 import java.util.Set;
 import java.util.TreeSet;
+import java.util.regex.Matcher;
 import java.util.regex.Pattern;
 
-/** The class has the document's face and no other member that can be seen, and keeps to plain Java. */
+/** The class has the document's face and no other member that can be seen, and keeps to LANGUAGE.md. */
 public final class FairOrderFace {
     private static final Set<String> FACE = Set.of(
         "int clear()", "int account(long,long)", "int pool(long,long)", "long seal(int,int,int,int)",
@@ -19,8 +20,13 @@ public final class FairOrderFace {
         "int of(int,int)", "int count(int)");
     private static final Set<String> CONSTANTS = Set.of("NONE", "BAD", "FULL", "WHEN", "SHORT", "OTHER");
     private static final String[] FORBIDDEN = {
-        "\\bthrow\\b", "\\btry\\b", "\\bcatch\\b", "\\bsynchronized\\b", "\\bassert\\b", "Exact\\b",
-        "->", "::", "\\bpackage\\b"};
+        "\\bthrows?\\b", "\\btry\\b", "\\bcatch\\b", "\\bsynchronized\\b", "\\bassert\\b", "Exact\\b",
+        "->", "::", "\\bpackage\\b", "\\bstatic\\s*\\{", "\\bnew \\w+\\([^)]*\\)\\s*\\{",
+        "\\bObject\\b", "\\bThread\\b"};
+    private static final Set<String> IMPORTS = Set.of("java.util.Arrays", "java.util.ArrayList", "java.util.List");
+    private static final Pattern ALLOWED_USE = Pattern.compile(
+        "Arrays\\.(fill|copyOf|copyOfRange)|System\\.arraycopy|(Integer|Long|Math)\\.\\w+");
+    private static final int MOST_CLASSES = 12, MOST_FIELDS = 20, MOST_PARAMETERS = 7, MOST_LINES = 60;
 
     private static int wrong = 0;
 
@@ -35,7 +41,11 @@ public final class FairOrderFace {
         checkMethods();
         checkFields();
         checkConstructorsAndClasses();
-        checkWords();
+        String text = Files.readString(Path.of("src/main/java/FairOrder.java"));
+        checkSizes();
+        checkWords(withoutComments(text));
+        checkLibrary(withoutComments(text));
+        checkLines(text);
         System.out.println(wrong == 0 ? "the face is as due" : wrong + " things are not as due");
         if (wrong != 0) {
             System.exit(1);
@@ -97,10 +107,64 @@ public final class FairOrderFace {
         }
     }
 
-    private static void checkWords() throws IOException {
-        String text = Files.readString(Path.of("src/main/java/FairOrder.java"));
+    private static String withoutComments(String text) {
+        return text.replaceAll("(?s)/\\*.*?\\*/", "").replaceAll("//[^\n]*", "");
+    }
+
+    private static void checkWords(String text) {
         for (String word : FORBIDDEN) {
             check(!Pattern.compile(word).matcher(text).find(), "the program has no " + word);
+        }
+        check(text.chars().allMatch(c -> c < 128), "the program has plain characters alone");
+    }
+
+    private static void checkLibrary(String text) {
+        Matcher imports = Pattern.compile("\\bimport ([\\w.* ]+);").matcher(text);
+        while (imports.find()) {
+            check(IMPORTS.contains(imports.group(1)), "it may import " + imports.group(1));
+        }
+        Matcher uses = Pattern.compile("\\b[A-Z]\\w*\\.\\w+").matcher(text);
+        while (uses.find()) {
+            check(ALLOWED_USE.matcher(uses.group()).matches(), "it may use " + uses.group());
+        }
+        String body = text.substring(text.indexOf("public final class"));
+        check(!Pattern.compile("\\bjavax?\\.").matcher(body).find(), "the library is named in imports alone");
+    }
+
+    private static void checkSizes() {
+        Class<?>[] inside = FairOrder.class.getDeclaredClasses();
+        check(inside.length + 1 <= MOST_CLASSES, "the file has few classes: " + (inside.length + 1));
+        checkSizesOf(FairOrder.class);
+        for (Class<?> c : inside) {
+            checkSizesOf(c);
+        }
+    }
+
+    private static void checkSizesOf(Class<?> c) {
+        int fields = 0;
+        for (Field f : c.getDeclaredFields()) {
+            fields += Modifier.isStatic(f.getModifiers()) ? 0 : 1;
+        }
+        check(fields <= MOST_FIELDS, c + " has few fields: " + fields);
+        for (Method m : c.getDeclaredMethods()) {
+            check(m.getParameterCount() <= MOST_PARAMETERS, m + " takes few parameters");
+            check(c == FairOrder.class || FACE.stream().noneMatch(f -> f.contains(" " + m.getName() + "(")),
+                m + " has no public method's name");
+        }
+    }
+
+    // Methods end with a brace of the depth at which they began, as the file is indented by fours.
+    private static void checkLines(String text) {
+        String[] lines = text.split("\n");
+        for (int i = 0; i < lines.length; i++) {
+            Matcher begin = Pattern.compile("( {4}| {8})(?! )(?!.*\\bclass\\b).*\\) \\{").matcher(lines[i]);
+            if (begin.matches()) {
+                int end = i;
+                while (end < lines.length && !lines[end].equals(begin.group(1) + "}")) {
+                    end++;
+                }
+                check(end - i < MOST_LINES, "a method is short: " + lines[i].trim());
+            }
         }
     }
 }
